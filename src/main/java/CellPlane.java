@@ -742,8 +742,7 @@ public final class CellPlane {
 
     /** The points of the base, the stacks over it, and at which cell of each stack a curve is. */
     private static final class Stacks {
-        // One more than there can be: a new root is written there before its place is known.
-        final Root[] roots = new Root[MOST_POINTS + 1];
+        final Root[] roots = new Root[MOST_POINTS];
         int points = 0;
         int size = 0;
         int curves = 0;
@@ -759,7 +758,7 @@ public final class CellPlane {
         private final int[] signs = new int[MOST_CURVES * MOST_CURVES];
 
         Stacks() {
-            for (int point = 0; point <= MOST_POINTS; point++) {
+            for (int point = 0; point < MOST_POINTS; point++) {
                 roots[point] = new Root();
             }
         }
@@ -828,6 +827,7 @@ public final class CellPlane {
             if (part == 0 || points >= MOST_POINTS) {
                 return;
             }
+            // The first one out of use is written before its place in the row is known.
             Root fresh = roots[points];
             fresh.write(whole, way, under, part);
             int at = 0;
