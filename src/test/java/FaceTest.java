@@ -140,7 +140,7 @@ public final class FaceTest {
         x.plane();
         x.put(0, 1, -8);
         x.put(4, 1, 8);
-        for (int i = 0; i < 60; i++) {
+        for (int i = 0; i < 50; i++) {
             x.move(i % 4, i % 10, -i % 10);
             x.neighbours(i % x.count(2), i % 3);
             x.sentence(i % 2, i / 2 % 2, i / 4 % 2, 1234);

@@ -1,9 +1,5 @@
 /** For each promise of the document: ordinary inputs, its edges, and wrong inputs. */
-public final class PromiseTest {
-    private static final int NONE = -1, UNKNOWN = -101, OUTSIDE = -102, STATE = -103, FULL = -104;
-    private static final int LEAST = Integer.MIN_VALUE, MOST = Integer.MAX_VALUE;
-    private static int promise = 0, asked = 0, wrong = 0;
-
+public final class PromiseTest extends Checks {
     public static void main(String[] args) {
         newObject();
         letter();
@@ -33,33 +29,7 @@ public final class PromiseTest {
         restore();
         count();
         digest();
-        System.out.println(asked + " answers, " + wrong + " of them not as due");
-        if (wrong != 0) {
-            System.exit(1);
-        }
-    }
-
-    private static void due(String what, long got, long want) {
-        asked++;
-        if (got != want) {
-            wrong++;
-            System.out.println("promise " + promise + ": " + what + " answered " + got + ", due is " + want);
-        }
-    }
-
-    private static int write(CellPlane x, String text) {
-        int letters = x.count(6);
-        for (int i = 0; i < text.length(); i++) {
-            letters = x.letter(text.charAt(i));
-        }
-        return letters;
-    }
-
-    private static CellPlane read(String text) {
-        CellPlane x = new CellPlane();
-        write(x, text);
-        due("plane() of " + text, x.plane(), (text.length() + 1) / 6);
-        return x;
+        finish();
     }
 
     private static int faultOf(String text) {
@@ -69,7 +39,7 @@ public final class PromiseTest {
     }
 
     private static void newObject() {
-        promise = 1;
+        about("promise 1");
         CellPlane old = read("p+0+0,h+0+2");
         old.sentence(0, 0, 0, 0);
         old.dice(6);
@@ -92,7 +62,7 @@ public final class PromiseTest {
     }
 
     private static void letter() {
-        promise = 2;
+        about("promise 2");
         CellPlane x = new CellPlane();
         for (int code : new int[] {0, -1, 127, LEAST, MOST}) {
             due("letter(" + code + ")", x.letter(code), OUTSIDE);
@@ -110,7 +80,7 @@ public final class PromiseTest {
     }
 
     private static void blank() {
-        promise = 3;
+        about("promise 3");
         CellPlane x = new CellPlane();
         due("blank() of nothing", x.blank(), 0);
         write(x, "p+0");
@@ -122,7 +92,7 @@ public final class PromiseTest {
     }
 
     private static void fault() {
-        promise = 4;
+        about("promise 4");
         due("empty", faultOf(""), 0);
         due("a start", faultOf("p"), 1);
         due("a longer start", faultOf("p+0"), 3);
@@ -148,7 +118,7 @@ public final class PromiseTest {
     }
 
     private static void plane() {
-        promise = 5;
+        about("promise 5");
         CellPlane x = new CellPlane();
         due("plane() of nothing", x.plane(), STATE);
         write(x, "p+0+");
@@ -182,7 +152,7 @@ public final class PromiseTest {
     }
 
     private static void curve() {
-        promise = 6;
+        about("promise 6");
         CellPlane x = read("l-9+9,h+9-9");
         due("kind", x.curve(0, 0), 1);
         due("b", x.curve(0, 1), 0);
@@ -224,7 +194,7 @@ public final class PromiseTest {
     }
 
     private static void as() {
-        promise = 7;
+        about("promise 7");
         CellPlane x = read("p+0+1,l+0+1,h+0+1,u+0+1");
         int[][] want = {{0, NONE, NONE, NONE, NONE}, {1, 1, NONE, NONE, NONE},
             {2, 2, 2, NONE, NONE}, {3, NONE, NONE, 3, NONE}};
@@ -256,7 +226,7 @@ public final class PromiseTest {
     }
 
     private static void point() {
-        promise = 8;
+        about("promise 8");
         points("p+0+0,h+0+2", new int[][] {{98585, 0, 1, 0}, {101414, 0, 1, 0}});
         points("l+2+0,h+0+1", new int[][] {{100500, 1, 1, 0}});
         points("l+3+0,h+0-1", new int[][] {{99666, 1, 1, 0}});
@@ -283,7 +253,7 @@ public final class PromiseTest {
     }
 
     private static void stack() {
-        promise = 9;
+        about("promise 9");
         CellPlane x = read("p+0+0,h+0+2,l+0+2");
         int[] want = {5, 3, 5, 3, 5};
         for (int stack = 0; stack < 5; stack++) {
@@ -301,7 +271,7 @@ public final class PromiseTest {
     }
 
     private static void cell() {
-        promise = 10;
+        about("promise 10");
         CellPlane x = read("p+0+0,h+0+2,u+0+0");
         due("on the curve at 0", x.cell(3, 1, 0), 1);
         due("the level one above it", x.cell(3, 1, 1), 2);
@@ -327,7 +297,7 @@ public final class PromiseTest {
     }
 
     private static void neighbours() {
-        promise = 11;
+        about("promise 11");
         CellPlane x = read("h+0+0,u+0+0");
         int[][] want = {{3, 3, 3}, {3, 8, 3}, {3, 3, 3}};
         for (int stack = 0; stack < 3; stack++) {
@@ -353,7 +323,7 @@ public final class PromiseTest {
     }
 
     private static void put() {
-        promise = 12;
+        about("promise 12");
         CellPlane x = new CellPlane();
         due("put() without a plane", x.put(0, 0, 0), STATE);
         due("put() outside, without a plane", x.put(5, 0, 0), OUTSIDE);
@@ -377,7 +347,7 @@ public final class PromiseTest {
     }
 
     private static void take() {
-        promise = 13;
+        about("promise 13");
         CellPlane x = read("p+0+0,h+0+2,u+0+5");
         x.see(1, 3, 5, 1);
         due("sorts ahead", x.curve(1, 4), 0);
@@ -401,7 +371,7 @@ public final class PromiseTest {
     }
 
     private static void move() {
-        promise = 14;
+        about("promise 14");
         CellPlane x = read("p+0+0,h+0+2");
         due("move() to where they touch", x.move(0, 0, 2), 13);
         due("move() off", x.move(0, 0, 3), 5);
@@ -420,7 +390,7 @@ public final class PromiseTest {
     }
 
     private static void change() {
-        promise = 15;
+        about("promise 15");
         CellPlane x = read("p+2+0,h+3+1");
         due("change() to upright", x.change(0, 3), 0);
         due("points then", x.count(1), 1);
@@ -441,7 +411,7 @@ public final class PromiseTest {
     }
 
     private static void mirror() {
-        promise = 16;
+        about("promise 16");
         due("mirror() of no plane", new CellPlane().mirror(), STATE);
         CellPlane x = read("p+3+1,h-2+5,u+4-7,l+0+9");
         int cells = x.count(3);
@@ -460,7 +430,7 @@ public final class PromiseTest {
     }
 
     private static void sentence() {
-        promise = 17;
+        about("promise 17");
         CellPlane none = new CellPlane();
         due("no plane", none.sentence(0, 0, 0, 0), STATE);
         due("no plane, outside", none.sentence(0, 0, 0, 7), OUTSIDE);
@@ -492,7 +462,7 @@ public final class PromiseTest {
     }
 
     private static void pieces() {
-        promise = 18;
+        about("promise 18");
         due("no plane", new CellPlane().pieces(0, 0), STATE);
         due("no plane, outside", new CellPlane().pieces(2, 0), OUTSIDE);
         CellPlane x = read("l+1+0,l-1+0");
@@ -526,7 +496,7 @@ public final class PromiseTest {
     }
 
     private static void loose() {
-        promise = 19;
+        about("promise 19");
         due("no plane", new CellPlane().loose(), STATE);
         due("one curve", read("p+0+0").loose(), NONE);
         due("two alike", read("h+0+0,p+0+1").loose(), 0);
@@ -540,7 +510,7 @@ public final class PromiseTest {
     }
 
     private static void see() {
-        promise = 20;
+        about("promise 20");
         due("no plane", new CellPlane().see(0, 0, 0, 0), UNKNOWN);
         CellPlane x = read("p+0+0");
         int[][] strange = {{-10, 0, 0}, {10, 0, 0}, {0, -10, 0}, {0, 10, 0}, {0, 0, -1}, {0, 0, 3},
@@ -560,7 +530,7 @@ public final class PromiseTest {
     }
 
     private static void forget() {
-        promise = 21;
+        about("promise 21");
         due("no plane", new CellPlane().forget(), 0);
         CellPlane x = read("p+0+0");
         due("nothing seen", x.forget(), 0);
@@ -574,7 +544,7 @@ public final class PromiseTest {
     }
 
     private static void dice() {
-        promise = 22;
+        about("promise 22");
         CellPlane x = new CellPlane();
         due("dice(1000)", x.dice(1000), 838);
         for (int sides : new int[] {0, -1, 1001, LEAST, MOST}) {
@@ -593,7 +563,7 @@ public final class PromiseTest {
     }
 
     private static void latest() {
-        promise = 23;
+        about("promise 23");
         CellPlane x = new CellPlane();
         due("no answer", x.latest(0), UNKNOWN);
         write(x, "h+0+0");
@@ -618,7 +588,7 @@ public final class PromiseTest {
     }
 
     private static void image() {
-        promise = 24;
+        about("promise 24");
         CellPlane x = new CellPlane();
         due("no plane", x.image(), STATE);
         due("none kept then", x.restore(), STATE);
@@ -632,7 +602,7 @@ public final class PromiseTest {
     }
 
     private static void restore() {
-        promise = 25;
+        about("promise 25");
         due("no plane", new CellPlane().restore(), STATE);
         CellPlane x = read("p+0+0,h+0+2");
         due("none kept", x.restore(), STATE);
@@ -677,7 +647,7 @@ public final class PromiseTest {
     }
 
     private static void count() {
-        promise = 26;
+        about("promise 26");
         CellPlane x = read("p+0+0,h+0+2,u+0+0");
         x.see(0, 0, 0, 0);
         x.see(0, 0, 0, 0);
@@ -735,7 +705,7 @@ public final class PromiseTest {
     }
 
     private static void digest() {
-        promise = 27;
+        about("promise 27");
         CellPlane x = new CellPlane();
         long h = 1433;
         for (int number : new int[] {0, 0, 0, 0, 0, 0, 0, 0, 0, 1, 0}) {
