@@ -18,12 +18,14 @@ public final class LimitsTest extends Checks {
         asNone();
         pointsEachOnce();
         pointsRoundedDown();
+        pointsOfAllPairs();
         fewestAndMostCells();
         putUpToFour();
         takeDownToOne();
         seenStaysWithTheNumbers();
         moveAndChangeKeepTheRest();
         mirrorOfTheOutermost();
+        cutAnewByEachChange();
         formsOfCurvesThatThereAreNot();
         formsOfNone();
         everyFigure();
@@ -236,6 +238,69 @@ public final class LimitsTest extends Checks {
         due("the last point of " + planes[1], read(planes[1]).point(1, 0), 118949);
     }
 
+    /** Each two of kinds that can meet, at all distances of their b and c. */
+    private static void pointsOfAllPairs() {
+        about("8 point: rounded down, for all pairs of CURVES that meet");
+        String[] kinds = {"pl", "lp", "fl", "pf", "fp", "ll"};
+        int[] squares = {1, -1, -1, 2, -2, 0};
+        for (int pair = 0; pair < kinds.length; pair++) {
+            for (int b = -18; b <= 18; b++) {
+                for (int c = -18; c <= 18; c++) {
+                    CellPlane x = read(kinds[pair].charAt(0) + signed(b - b / 2) + signed(c - c / 2) + ","
+                            + kinds[pair].charAt(1) + signed(-(b / 2)) + signed(-(c / 2)));
+                    pointsAre(x, squares[pair], b, c);
+                }
+            }
+        }
+    }
+
+    private static String signed(int number) {
+        return (number < 0 ? "-" : "+") + Math.abs(number);
+    }
+
+    /** The points are where a times x times x, b times x, and c is 0. */
+    private static void pointsAre(CellPlane x, int a, int b, int c) {
+        int under = b * b - 4 * a * c;
+        if (a == 0 && b == 0 || under < 0) {
+            due("points", x.count(1), 0);
+            return;
+        }
+        int root = (int) Math.round(Math.sqrt(under));
+        boolean square = root * root == under;
+        List<Integer> want = new ArrayList<>();
+        for (int way = -1; way <= 1; way += 2) {
+            int down = a == 0 ? Math.floorDiv(-1000 * c, b) : thousandthsDown(way * Integer.signum(a), a, b, under);
+            if (a != 0 && under != 0 || way < 0) {
+                want.add(down);
+            }
+        }
+        due("points", x.count(1), want.size());
+        for (int point = 0; point < want.size(); point++) {
+            due("point " + point + " of " + a + ", " + b + ", " + c, x.point(point, 0), 100000 + want.get(point));
+            due("a fraction, of " + a + ", " + b + ", " + c, x.point(point, 1), a == 0 || square ? 1 : 0);
+        }
+    }
+
+    /** The greatest whole t with 2 a t at most 1000 times less b and way times the root, by trying. */
+    private static int thousandthsDown(int way, int a, int b, int under) {
+        int part = 2 * Math.abs(a);
+        int turned = a < 0 ? b : -b;
+        int turnedWay = a < 0 ? -way : way;
+        int t = (int) Math.floor(1000.0 * (turned + turnedWay * Math.sqrt(under)) / part) + 2;
+        while (!atMostRoot((long) part * t - 1000L * turned, turnedWay, 1000000L * under)) {
+            t--;
+        }
+        return t;
+    }
+
+    /** Whether a number is at most way times the root of a square. */
+    private static boolean atMostRoot(long number, int way, long square) {
+        if (way > 0) {
+            return number <= 0 || number * number <= square;
+        }
+        return number <= 0 && number * number >= square;
+    }
+
     private static void fewestAndMostCells() {
         about("9 stack: the fewest cells and the most");
         due("one cell", read("u+0+0,u+0+1,u+0+2,u+0+3").stack(8), 1);
@@ -250,6 +315,17 @@ public final class LimitsTest extends Checks {
         }
         due("cells ahead of all", x.stack(0), 9);
         due("the topmost cell", x.cell(22, 8, 0), 0);
+        about("18 pieces: of the most cells");
+        due("all of them", x.pieces(0, 0), 1);
+        due("off all curves: each curve and each crossing makes one more", x.pieces(0, 4444), 1 + 4 + 11);
+        due("on some curve", x.pieces(1, 2222), 1);
+        // A curve is cut by its crossings: two with each other one, one of a curve with a curve.
+        int[] alone = {2444, 4244, 4424, 4442};
+        int[] arcs = {6, 6, 7, 7};
+        for (int curve = 0; curve < 4; curve++) {
+            due("on curve " + curve + " alone", x.pieces(0, alone[curve]), arcs[curve]);
+        }
+        due("off some curve", x.pieces(1, 4444), 1);
         about("11 neighbours: the fewest and the most");
         due("one below, no point", read("h+0+0").neighbours(0, 2), 1);
         due("of four that meet at one point", read("l+1+0,l+2+0,l+3+0,l+4+0").neighbours(1, 1), 2 + 9 + 9);
@@ -332,6 +408,36 @@ public final class LimitsTest extends Checks {
             due("name of " + curve, x.curve(curve, 3), curve + 1);
         }
         due("mirror() of one curve", read("f+9+0").mirror(), 3);
+    }
+
+    private static void cutAnewByEachChange() {
+        CellPlane x = read("p+0+0");
+        countsAre(x, 1, 0, 1, 3, 1);
+        about("12 put: the plane is cut by the new CURVE, too");
+        x.put(1, 1, 2);
+        countsAre(x, 2, 2, 5, 21, 8);
+        due("the first point", x.point(0, 0), 99000);
+        about("14 move: the plane is cut where the CURVE is then");
+        due("move(1, 1, 0)", x.move(1, 1, 0), 21);
+        due("the first point", x.point(0, 0), 100000);
+        about("15 change: the plane is cut by the CURVE as it is then");
+        due("change(1, 2)", x.change(1, 2), 1);
+        countsAre(x, 2, 1, 3, 13, 5);
+        due("change(1, 1)", x.change(1, 1), 2);
+        about("16 mirror: the plane is cut anew; what is SEEN stays");
+        x.see(1, 2, 2, 1);
+        due("sorts ahead", x.curve(1, 4), 2);
+        due("mirror()", x.mirror(), 21);
+        due("the first point", x.point(0, 0), 99000);
+        due("sorts then", x.curve(1, 4), 1);
+        due("mirror() again", x.mirror(), 21);
+        due("sorts as they were", x.curve(1, 4), 2);
+        about("13 take: the plane is not cut by the CURVE any more");
+        due("take(1)", x.take(1), 2);
+        countsAre(x, 1, 0, 1, 3, 1);
+        due("the second stack", x.stack(1), UNKNOWN);
+        due("the cell above all", x.cell(0, 2, 0), 0);
+        due("a cell above that", x.cell(0, 3, 0), UNKNOWN);
     }
 
     private static void formsOfCurvesThatThereAreNot() {
@@ -509,19 +615,25 @@ public final class LimitsTest extends Checks {
     private static void imageIsNotTouched() {
         about("24 image, 25 restore: an IMAGE keeps the CURVES, NAMES, SEEN");
         CellPlane x = read("p+1-2,h+3+4,u-5+6");
-        x.see(1, 2, 3, 0);
-        x.see(2, -4, 5, 2);
-        long cut = x.digest();
+        x.see(1, 2, 7, 0);
+        x.see(2, 2, -1, 2);
+        due("sorts of 1", x.curve(1, 4), 4 + 16);
+        due("sorts of 2", x.curve(2, 4), 1 + 4 + 8);
+        long all = x.digest();
         x.image();
         for (int again = 0; again < 3; again++) {
             x.move(0, 9, 9);
             x.change(1, 4);
             x.take(2);
             x.mirror();
-            x.forget();
-            x.see(0, 0, 0, 0);
+            due("forget()", x.forget(), 2);
+            x.see(0, -3, 1, 1);
+            x.see(0, -3, 1, 1);
             due("restore()", x.restore(), 3);
-            due("digest() of what it was", x.digest(), cut);
+            due("sorts of 0", x.curve(0, 4), 31);
+            due("sorts of 1 again", x.curve(1, 4), 4 + 16);
+            due("sorts of 2 again", x.curve(2, 4), 1 + 4 + 8);
+            due("digest() of what it was", x.digest(), all);
         }
         x.put(1, 1, 1);
         x.take(0);

@@ -289,6 +289,7 @@ public final class PromiseTest extends Checks {
         due("where they meet: the level one", x.cell(1, 1, 1), 1);
         CellPlane y = read("p+0+0,h+0+0");
         due("a curve that touches is above again behind it", y.cell(2, 3, 0), 1);
+        x = read("p+0+0,h+0+2,u+0+0");
         int[][] strange = {{-1, 0, 0}, {7, 0, 0}, {0, -1, 0}, {0, 5, 0}, {1, 3, 0}, {0, 0, -1}, {0, 0, 3},
             {LEAST, 0, 0}, {MOST, 0, 0}, {0, LEAST, 0}, {0, MOST, 0}, {0, 0, LEAST}, {0, 0, MOST}};
         for (int[] s : strange) {
@@ -316,6 +317,7 @@ public final class PromiseTest extends Checks {
         CellPlane one = read("h+0+0");
         due("below a level one", one.neighbours(0, 0), 1);
         due("on a level one", one.neighbours(0, 1), 2);
+        x = read("h+0+0,u+0+0");
         int[][] strange = {{-1, 0}, {3, 0}, {0, -1}, {0, 3}, {LEAST, 0}, {MOST, 0}, {0, LEAST}, {0, MOST}};
         for (int[] s : strange) {
             due("neighbours(" + s[0] + ", " + s[1] + ")", x.neighbours(s[0], s[1]), UNKNOWN);
@@ -488,6 +490,7 @@ public final class PromiseTest extends Checks {
         CellPlane touch = read("p+0+0,h+0+0");
         due("between where they touch", touch.pieces(0, 3100), 2);
         due("with the edges", touch.pieces(0, 5600), 1);
+        x = read("l+1+0,l-1+0");
         int[][] strange = {{2, 0}, {-1, 0}, {0, -1}, {0, 7}, {0, 7000}, {0, 10000}, {LEAST, 0}, {0, LEAST}, {0, MOST}};
         for (int[] s : strange) {
             due("pieces(" + s[0] + ", " + s[1] + ")", x.pieces(s[0], s[1]), OUTSIDE);

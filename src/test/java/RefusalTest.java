@@ -3,9 +3,8 @@ import java.util.List;
 
 /** Refusals: each one where it is due, the first of several, and that a refused call changes nothing. */
 public final class RefusalTest extends Checks {
-    private static final int MANY = 6;
-
     public static void main(String[] args) {
+        houses();
         letter();
         plane();
         curveAndAs();
@@ -90,17 +89,32 @@ public final class RefusalTest extends Checks {
     private static void makeFilled(CellPlane x) {
         makeThree(x);
         x.put(1, 1, 0);
-        int[][] sights = {{0, 1, 1, 0}, {1, -9, 9, 2}, {3, 4, 4, 1}, {3, 5, 9, 0}};
-        for (int[] s : sights) {
-            x.see(s[0], s[1], s[2], s[3]);
-        }
         x.image();
         x.change(2, 0);
         x.mirror();
+        x.forget();
+        // Each of these leaves some sorts and not all, so that another one in its place would be told.
+        int[][] sights = {{0, 2, -1, 0}, {0, 0, -3, 1}, {1, 1, -4, 0}, {2, 2, 3, 2}, {3, 1, -1, 2}, {3, -1, 0, 2}};
+        for (int[] s : sights) {
+            x.see(s[0], s[1], s[2], s[3]);
+        }
         for (int i = 0; i < 9; i++) {
             x.sentence(1, i % 3 == 0 ? 1 : 0, 0, 2000);
         }
         write(x, "+0,p+0+0,p+0+0,p+0+0x");
+    }
+
+    private static void houses() {
+        about("the house that is filled");
+        CellPlane x = House.FILLED.make();
+        due("curves", x.count(0), 4);
+        due("sights", x.count(5), 6);
+        due("letters", x.count(6), 24);
+        due("answers", x.count(10), 8);
+        int[] sorts = {4 + 16, 2 + 8 + 16, 1 + 4 + 8, 1};
+        for (int curve = 0; curve < 4; curve++) {
+            due("sorts of " + curve, x.curve(curve, 4), sorts[curve]);
+        }
     }
 
     /** All that can be told of a house, and of how it goes on. */
@@ -362,7 +376,6 @@ public final class RefusalTest extends Checks {
             }
         }
         about("20 see: FULL changes nothing");
-        due("sights of the house that is filled", House.FILLED.make().count(5), MANY);
         refused(House.FILLED, FULL, "see", 0, 0, 0, 0);
         refused(House.FILLED, FULL, "see", 3, -9, 9, 2);
     }
