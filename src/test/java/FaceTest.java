@@ -140,7 +140,8 @@ public final class FaceTest {
         x.plane();
         x.put(0, 1, -8);
         x.put(4, 1, 8);
-        for (int i = 0; i < 50; i++) {
+        // With the calls ahead these are 505, and a house is used for 512 at most.
+        for (int i = 0; i < 49; i++) {
             x.move(i % 4, i % 10, -i % 10);
             x.neighbours(i % x.count(2), i % 3);
             x.sentence(i % 2, i / 2 % 2, i / 4 % 2, 1234);

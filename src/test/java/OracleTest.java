@@ -13,7 +13,8 @@ import java.util.Random;
 public final class OracleTest {
     private static final MathContext FIGURES = new MathContext(80, RoundingMode.HALF_EVEN);
     private static final BigDecimal TINY = new BigDecimal("1e-40");
-    private static final int RUNS = 400, CALLS = 180;
+    // A house is used for 512 calls at most; to spell a plane takes 28 at most.
+    private static final int RUNS = 400, CALLS = 180, LAST_CALL = 512 - 28 - 1;
     private static int wrong = 0;
 
     public static void main(String[] args) {
@@ -609,6 +610,7 @@ public final class OracleTest {
         final House due = new House();
         final StringBuilder told = new StringBuilder();
         boolean failed = false;
+        int calls = 0;
 
         Run(int number) {
             this.number = number;
@@ -616,7 +618,7 @@ public final class OracleTest {
         }
 
         void go() {
-            for (int i = 0; i < CALLS && !failed; i++) {
+            for (int i = 0; i < CALLS && calls < LAST_CALL && !failed; i++) {
                 if (i == 3 || random.nextInt(40) == 0) {
                     spell();
                 }
@@ -766,6 +768,7 @@ public final class OracleTest {
         }
 
         void compare(String name, int[] arguments, long got) {
+            calls++;
             long want = due.call(name, arguments);
             told.append(name).append(java.util.Arrays.toString(arguments)).append(" = ").append(got).append('\n');
             if (got != want && !failed) {

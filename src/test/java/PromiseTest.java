@@ -1,3 +1,5 @@
+import java.util.function.Supplier;
+
 /** For each promise of the document: ordinary inputs, its edges, and wrong inputs. */
 public final class PromiseTest extends Checks {
     public static void main(String[] args) {
@@ -673,10 +675,13 @@ public final class PromiseTest extends Checks {
         return h * 31 + number;
     }
 
-    /** By the document's words, out of what the other calls tell. */
-    private static long toldDigest(CellPlane x, String page) {
+    /** By the document's words, out of what the other calls tell: each stack by a house made alike. */
+    private static long toldDigest(Supplier<CellPlane> house, String page) {
+        CellPlane x = house.get();
+        int curves = x.count(0);
+        int stacks = x.count(2);
         long h = 1433;
-        for (int curve = 0; curve < x.count(0); curve++) {
+        for (int curve = 0; curve < curves; curve++) {
             for (int what = 0; what <= 5; what++) {
                 h = mix(h, x.curve(curve, what));
             }
@@ -686,15 +691,11 @@ public final class PromiseTest extends Checks {
                 h = mix(h, x.point(point, what));
             }
         }
-        for (int stack = 0; stack < x.count(2); stack++) {
-            h = mix(h, x.stack(stack));
-            for (int cell = 0; cell < x.stack(stack); cell++) {
-                for (int curve = 0; curve < x.count(0); curve++) {
-                    h = mix(h, x.cell(stack, cell, curve));
-                }
-            }
+        for (int stack = 0; stack < stacks; stack++) {
+            h = mixStack(h, house.get(), stack, curves);
         }
-        h = x.count(0) == 0 ? h : mix(h, x.pieces(0, 1000));
+        x = house.get();
+        h = curves == 0 ? h : mix(h, x.pieces(0, 1000));
         for (int number = 0; number < x.count(10); number++) {
             h = mix(h, x.latest(number));
         }
@@ -707,6 +708,35 @@ public final class PromiseTest extends Checks {
         return h;
     }
 
+    private static long mixStack(long start, CellPlane x, int stack, int curves) {
+        int cells = x.stack(stack);
+        long h = mix(start, cells);
+        for (int cell = 0; cell < cells; cell++) {
+            for (int curve = 0; curve < curves; curve++) {
+                h = mix(h, x.cell(stack, cell, curve));
+            }
+        }
+        return h;
+    }
+
+    private static CellPlane written() {
+        CellPlane x = new CellPlane();
+        write(x, "h+0+0");
+        return x;
+    }
+
+    private static CellPlane muchToDigest() {
+        CellPlane x = read("h+0+0");
+        x.put(0, 0, -3);
+        x.put(3, 0, 1);
+        x.put(4, 2, 5);
+        x.see(1, 1, 1, 0);
+        x.sentence(0, 0, 0, 2222);
+        x.sentence(0, 1, 1, 6666);
+        write(x, "z");
+        return x;
+    }
+
     private static void digest() {
         about("promise 27");
         CellPlane x = new CellPlane();
@@ -715,23 +745,16 @@ public final class PromiseTest extends Checks {
             h = mix(h, number);
         }
         due("digest() of nothing", x.digest(), h);
-        write(x, "h+0+0");
-        due("digest() of a page", x.digest(), toldDigest(x, "h+0+0"));
-        x.plane();
+        due("digest() of a page", written().digest(), toldDigest(PromiseTest::written, "h+0+0"));
         h = 1433;
         // Kind, b, c, name, sorts, ask; three cells; the piece above the curve; counts.
         for (int number : new int[] {2, 9, 9, 1, 31, 0, 3, 2, 1, 0, 1, 1, 0, 1, 3, 1, 0, 0, 1, 0, 2, 0}) {
             h = mix(h, number);
         }
-        due("digest() of a level one", x.digest(), h);
-        x.put(0, 0, -3);
-        x.put(3, 0, 1);
-        x.put(4, 2, 5);
-        x.see(1, 1, 1, 0);
-        x.sentence(0, 0, 0, 2222);
-        x.sentence(0, 1, 1, 6666);
-        write(x, "z");
-        due("digest() of much", x.digest(), toldDigest(x, "z"));
-        due("digest() changes nothing", x.digest(), toldDigest(x, "z"));
+        due("digest() of a level one", read("h+0+0").digest(), h);
+        long much = toldDigest(PromiseTest::muchToDigest, "z");
+        x = muchToDigest();
+        due("digest() of much", x.digest(), much);
+        due("digest() changes nothing", x.digest(), much);
     }
 }
